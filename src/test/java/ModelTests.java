@@ -26,11 +26,12 @@ public final class ModelTests {
     private static void all() {
         Random random = new Random(20261116);
         draws(random);
+        GrammarTunes again = new GrammarTunes();
         for (int i = 0; i < 6000; i++) {
-            reading(random);
+            reading(random, i % 3 == 0 ? new GrammarTunes() : again);
         }
         for (int i = 0; i < 1500; i++) {
-            making(random);
+            making(random, i % 3 == 0 ? new GrammarTunes() : again);
         }
         for (int i = 0; i < 300; i++) {
             walking(random);
@@ -315,7 +316,7 @@ public final class ModelTests {
         return changed.toString();
     }
 
-    private static void reading(Random random) {
+    private static void reading(Random random, GrammarTunes x) {
         String text;
         switch (random.nextInt(4)) {
             case 0:
@@ -332,7 +333,8 @@ public final class ModelTests {
         }
         text = changed(random, text);
         Model model = new Model(text);
-        GrammarTunes x = Due.with(text);
+        x.cut(0);
+        Due.write(x, text);
         String call = "read() of " + text;
         DUE.is(call, model.answer, x.read());
         if (model.answer > 0) {
@@ -496,10 +498,11 @@ public final class ModelTests {
         return text.toString();
     }
 
-    private static void making(Random random) {
+    private static void making(Random random, GrammarTunes x) {
         String text = random.nextInt(3) == 0 ? randomText(random, 4, 4, 4) : tameText(random);
         Model model = new Model(text);
-        GrammarTunes x = Due.with(text);
+        x.cut(0);
+        Due.write(x, text);
         DUE.is("read() of " + text, model.answer, x.read());
         if (model.answer < 0) {
             return;

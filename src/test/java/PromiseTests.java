@@ -14,11 +14,13 @@ public final class PromiseTests {
         readsRules();
         readsFaults();
         readsLimits();
+        readsAnew();
         rule();
         want();
         makes();
         makeKeepsWhatIsWanted();
         makeFailsAndEnds();
+        makeGoesBackOverMany();
         tries();
         item();
         below();
@@ -218,6 +220,11 @@ public final class PromiseTests {
         faults("A=1 B \n= 2 0", 7);
         faults("A=1 0|2 B=2 0", 9);
         faults("A=1 B", 4);
+        faults("B=1 A", 4);
+        faults("@=1 0", 0);
+        faults("[=1 0", 0);
+        faults("A=1 0 @", 6);
+        faults("A=1 0 [=1 0", 6);
         faults("A=1 0 C B A B=1 D", 6);
         faults("A=1 C B=1 B?", 11);
         faults("A=1 0 A=1 0", 6);
@@ -267,6 +274,42 @@ public final class PromiseTests {
         String longest = times(1195, " ") + "A=1 0";
         reads(longest, 1, 1, 1);
         faults(times(1196, "\n") + "A=1 ", 1200);
+    }
+
+    private static void rereads(GrammarTunes x, String text, int rules, int alternatives, int signs) {
+        x.cut(0);
+        Due.write(x, text);
+        is("4 reread: " + text, rules, x.read());
+        is("4 reread: " + text + " RULES", rules, x.told(1));
+        is("4 reread: " + text + " ALTERNATIVES", alternatives, x.told(4));
+        is("4 reread: " + text + " SIGNS", signs, x.told(5));
+    }
+
+    /** Nothing of a text that was read, refused or cut before is left. */
+    private static void readsAnew() {
+        GrammarTunes x = new GrammarTunes();
+        rereads(x, "A=1 0|2 1 B=3 0 0 0", 2, 3, 5);
+        rereads(x, "A=5 0", 1, 1, 1);
+        rereads(x, "B=7 0|8 A A=9 B", 2, 3, 3);
+        is("5 WEIGHTS anew", 9, x.rule(0, 1));
+        is("5 WEIGHTS of B anew", 15, x.rule(1, 1));
+        rereads(x, "C=1 C", 1, 1, 1);
+        is("5 A is gone", NONE, x.rule(0, 0));
+        is("5 B is gone", NONE, x.rule(1, 0));
+        x.cut(0);
+        Due.write(x, "D=1 E E=1 F 0 0 0|7 7");
+        is("4 refused between", -30, x.read());
+        rereads(x, "E=1 0", 1, 1, 1);
+        is("5 D is not there", NONE, x.rule(3, 0));
+        x.cut(0);
+        Due.write(x, "A=1 A=1 0");
+        x.cut(5);
+        is("4 what was cut is not behind the LETTER", 1, x.read());
+        x.cut(0);
+        Due.write(x, "A=1 0:12");
+        x.cut(7);
+        is("4 what was cut is not in the length", 1, x.read());
+        is("4 the length", NONE, x.make(1, 1));
     }
 
     private static void rule() {
@@ -409,6 +452,7 @@ public final class PromiseTests {
         madeWith("S=1 0:8 2, r:4", 5, 2, 1, 3);
         madeWith("S=1 r:16", 5, 0, 1, NONE);
         madeWith("S=1 r:16", 5, -1, 1, 1);
+        madeWith("S=1 2:16", 5, 2, 1, 1);
         madeWith("S=1 6,,:16", 0, 47, 1, 1);
         madeWith("S=1 6,,:16", 0, 48, 1, NONE);
         madeWith("S=1 6'':16", 1, 95, 1, 1);
@@ -443,6 +487,24 @@ public final class PromiseTests {
         is("7 goes back over places", NONE, x.make(1, 4));
         // S; the first A twice; behind its short NOTE the second A twice, behind the long one too.
         is("8 goes back over places", 7, x.tries());
+    }
+
+    /** Nearly as many places as there can be, all of them gone back over. */
+    private static void makeGoesBackOverMany() {
+        String chain = "C=1D D=1E E=1F F=1G G=1H H=1I I=1J J=1K K=1L L=1M M=1r:1";
+        GrammarTunes x = Due.reading("S=1AAAAAAAA A=1Y Y=1BBBBBBBB B=1X X=1CCCC " + chain);
+        int all = 1 + 8 + 8 + 64 + 64 + 11 * 256;
+        x.want(6, 3000);
+        is("7 many places", 256, x.make(16, 1));
+        is("8 many places", all, x.tries());
+        x.want(5, 0);
+        is("7 back over many places", NONE, x.make(16, 1));
+        is("8 back over many places", all, x.tries());
+        x.want(6, all);
+        is("7 just MOST", NONE, x.make(16, 1));
+        x.want(6, all - 1);
+        is("7 one below", VAIN, x.make(16, 1));
+        is("8 one below", all - 1, x.tries());
     }
 
     private static void tries() {
@@ -647,6 +709,8 @@ public final class PromiseTests {
         is("18 place(0, 11)", 1, x.place(0, 11));
         is("18 place(1, 1)", 1, x.place(1, 1));
         is("18 place(5, 0)", 1, x.place(5, 0));
+        is("18 place(11, 8)", 1, x.place(11, 8));
+        is("18 place(11, 5)", 1, x.place(11, 5));
         int[] row = {11, 1, 2, 3, 4, 0, 6, 7, 8, 9, 10, 5};
         int[][] wrong = {{-1, 0}, {12, 0}, {0, -1}, {0, 12}};
         for (int[] pair : wrong) {
