@@ -505,6 +505,12 @@ public final class PromiseTests {
         x.want(6, all - 1);
         is("7 one below", VAIN, x.make(16, 1));
         is("8 one below", all - 1, x.tries());
+        // 1 + 6 * (1 + 3 * (1 + 12 * 13)) + (1 + 12 * 13) + 10 places, each with one ALTERNATIVE.
+        x = Due.reading("S=1AAAAAABF A=1BBB B=1" + times(12, "C") + " C=1D D=1E E=1F F=1G G=1H H=1I I=1J J=1K K=1L"
+                + " L=1M M=1N N=1O O=1r:1");
+        x.want(6, 3000);
+        is("7 back over 3000 places", NONE, x.make(16, 1));
+        is("8 back over 3000 places", 3000, x.tries());
     }
 
     private static void tries() {
