@@ -541,10 +541,9 @@ public final class GrammarTunes {
                 if (here() == END || here() == '|') {
                     return i > 0 || failAt(at);
                 }
-                int equalsSign = equalsSignBehindLetter();
-                if (equalsSign != NONE) {
-                    // A LETTER could still be the first SIGN: only the = shows that it is none.
-                    return i > 0 || failAt(equalsSign);
+                // Behind a WEIGHT a SIGN must stand: a LETTER there is one, and a = behind it the fault.
+                if (i > 0 && isLetterOfRule()) {
+                    return true;
                 }
                 if (!into.canAddSign()) {
                     return failAt(at);
@@ -556,12 +555,8 @@ public final class GrammarTunes {
             return failAt(at);
         }
 
-        private int equalsSignBehindLetter() {
-            if (!isLetter(here())) {
-                return NONE;
-            }
-            int behind = script.skipBlanks(at + 1);
-            return script.at(behind) == '=' ? behind : NONE;
+        private boolean isLetterOfRule() {
+            return isLetter(here()) && script.at(script.skipBlanks(at + 1)) == '=';
         }
 
         private boolean readSign() {

@@ -316,9 +316,43 @@ public final class ModelTests {
         return changed.toString();
     }
 
+    private static String counted(int rules, int alternatives, int signs) {
+        StringBuilder text = new StringBuilder();
+        int alternativesLeft = alternatives;
+        int signsLeft = signs;
+        for (int r = 0; r < rules; r++) {
+            text.append((char) ('A' + r)).append('=');
+            int most = r == rules - 1 ? alternativesLeft : Math.min(alternativesLeft, alternatives / rules);
+            for (int a = 0; a < most; a++) {
+                int some = Math.max(1, Math.min(12, signsLeft - (alternativesLeft - 1)));
+                text.append(a == 0 ? "1" : "|1").append("r".repeat(some));
+                alternativesLeft--;
+                signsLeft -= some;
+            }
+        }
+        return text.toString();
+    }
+
+    /** A text at or near the most RULES, ALTERNATIVES or SIGNS, with some words behind it. */
+    private static String crowdedText(Random random) {
+        int rules = random.nextInt(3) == 0 ? 15 + random.nextInt(2) : 1 + random.nextInt(3);
+        int alternatives = random.nextInt(3) == 0 ? 46 + random.nextInt(3) : 20 + random.nextInt(3);
+        int signs = random.nextInt(3) == 0 ? alternatives : 237 + random.nextInt(4);
+        StringBuilder text = new StringBuilder(counted(rules, alternatives, signs));
+        String[] words = {"|", "|", "1", "1", "|1", "|1", "=", "=", "A", "B", "Q", "Z", "0", "r", "0'", "r:16", "B=1", "Q=1"};
+        int more = 1 + random.nextInt(7);
+        for (int i = 0; i < more; i++) {
+            text.append(blanks(random, false)).append(words[random.nextInt(words.length)]);
+        }
+        return text.toString();
+    }
+
     private static void reading(Random random, GrammarTunes x) {
         String text;
-        switch (random.nextInt(4)) {
+        switch (random.nextInt(5)) {
+            case 3:
+                text = crowdedText(random);
+                break;
             case 0:
                 text = randomText(random, 18, 4, 3);
                 break;

@@ -270,6 +270,14 @@ public final class PromiseTests {
         reads(full, 1, 20, 240);
         faults(full + "|1 0", full.length() + 3);
         faults(full + "|1 A", full.length() + 3);
+        faults(full + "|1B=", full.length() + 2);
+        faults(full + "|1 B \n = 1 0", full.length() + 3);
+        faults(full + "|1 A=1 0", full.length() + 3);
+        faults(full + " B=1 C=1 0", full.length() + 5);
+        faults(full + " B=1 ", full.length() + 5);
+        reads(full.substring(0, full.length() - 1) + " B=1 A", 2, 21, 240);
+        faults(full.substring(0, full.length() - 1) + "|1 B = 1 0", full.length() + 4);
+        faults(full.substring(0, full.length() - 1) + "|1 A B=1 0", full.length() + 8);
         faults(full + " B=1 ?", full.length() + 5);
         String longest = times(1195, " ") + "A=1 0";
         reads(longest, 1, 1, 1);
