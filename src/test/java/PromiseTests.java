@@ -1,11 +1,8 @@
-import java.math.BigInteger;
-
 /** Each promise by itself: ordinary inputs, the edges that the document names, wrong inputs. */
 public final class PromiseTests {
     private static final int NONE = GrammarTunes.NONE, RANGE = GrammarTunes.RANGE,
             STATE = GrammarTunes.STATE, FULL = GrammarTunes.FULL, VAIN = GrammarTunes.VAIN;
     private static final Due DUE = new Due("promises");
-    private static final long GAMMA = 0x9E3779B97F4A7C15L;
 
     public static void main(String[] args) {
         newObject();
@@ -37,10 +34,6 @@ public final class PromiseTests {
 
     private static void is(String call, long due, long got) {
         DUE.is(call, due, got);
-    }
-
-    private static String times(int n, String part) {
-        return part.repeat(n);
     }
 
     private static void newObject() {
@@ -111,177 +104,146 @@ public final class PromiseTests {
         is("3 cut: far below", RANGE, x.cut(Integer.MIN_VALUE));
     }
 
-    private static void reads(String text, int rules, int alternatives, int signs) {
-        GrammarTunes x = Due.with(text);
-        is("4 read: " + text, rules, x.read());
-        is("4 read: " + text + " RULES", rules, x.told(1));
-        is("4 read: " + text + " ALTERNATIVES", alternatives, x.told(4));
-        is("4 read: " + text + " SIGNS", signs, x.told(5));
-        is("4 read: " + text + " again", rules, x.read());
-    }
-
     private static void readsRules() {
-        reads("A=1 0", 1, 1, 1);
-        reads("A=1A", 1, 1, 1);
-        reads("A=1r", 1, 1, 1);
-        reads(" \n A \n = \n 1 \n 0 \n | \n 999 \n r \n B = 2 3 \n ", 2, 3, 3);
-        reads("A=1 012", 1, 1, 3);
-        reads("A=10 12r3A|2r", 1, 2, 6);
-        reads("A=1BB=1AA", 2, 2, 3);
-        reads("A=1 0'1''2,3,,4':16 5,,:1r:10r:9", 1, 1, 8);
-        reads("A=1 0:1r0:16A", 1, 1, 4);
-        reads("A=1 0:1 2", 1, 1, 2);
-        reads("A=1 B B B=1 0", 2, 2, 3);
-        reads("Z=1 A\nA =1 0", 2, 2, 2);
-    }
-
-    private static void faults(String text, int place) {
-        GrammarTunes x = Due.with("Q=3 4 4|5 r");
-        x.read();
-        x.cut(0);
-        Due.write(x, text);
-        String call = "4 read: " + text.replace('\n', '~');
-        is(call, -10 - place, x.read());
-        is(call + " keeps the RULES", 1, x.told(1));
-        is(call + " keeps the ALTERNATIVES", 2, x.told(4));
-        is(call + " keeps the SIGNS", 3, x.told(5));
-        is(call + " keeps the WEIGHTS", 8, x.rule(16, 1));
-        is(call + " keeps the text", text.length(), x.told(0));
+        DUE.reads("A=1 0", 1, 1, 1);
+        DUE.reads("A=1A", 1, 1, 1);
+        DUE.reads("A=1r", 1, 1, 1);
+        DUE.reads(" \n A \n = \n 1 \n 0 \n | \n 999 \n r \n B = 2 3 \n ", 2, 3, 3);
+        DUE.reads("A=1 012", 1, 1, 3);
+        DUE.reads("A=10 12r3A|2r", 1, 2, 6);
+        DUE.reads("A=1BB=1AA", 2, 2, 3);
+        DUE.reads("A=1 0'1''2,3,,4':16 5,,:1r:10r:9", 1, 1, 8);
+        DUE.reads("A=1 0:1r0:16A", 1, 1, 4);
+        DUE.reads("A=1 0:1 2", 1, 1, 2);
+        DUE.reads("A=1 B B B=1 0", 2, 2, 3);
+        DUE.reads("Z=1 A\nA =1 0", 2, 2, 2);
     }
 
     private static void readsFaults() {
-        faults("", 0);
-        faults("  \n", 3);
-        faults("a", 0);
-        faults(" 1", 1);
-        faults("=", 0);
-        faults("|", 0);
-        faults("A", 1);
-        faults("A ", 2);
-        faults("A B", 2);
-        faults("AB=1 0", 1);
-        faults("A=", 2);
-        faults("A==", 2);
-        faults("A=|", 2);
-        faults("A=B", 2);
-        faults("A=r", 2);
-        faults("A=1", 3);
-        faults("A=1 ", 4);
-        faults("A=1|", 3);
-        faults("A=1=", 3);
-        faults("A=1:", 3);
-        faults("A=1 7", 4);
-        faults("A=1 9", 4);
-        faults("A=1 ?", 4);
-        faults("A=1 R0", 4);
-        faults("A=1 0=", 5);
-        faults("A=1 0|", 6);
-        faults("A=1 0 | ", 8);
-        faults("A=1 0||", 6);
-        faults("A=1 0|A", 6);
-        faults("A=1 0?", 5);
-        faults("A=1 0 a", 6);
-        faults("A=0 0", 2);
-        faults("A=01 0", 2);
-        faults("A=00", 2);
-        faults("A=1000 0", 2);
-        faults("A=1000", 2);
-        faults("A=99999999999999999999 0", 2);
-        faults("A=1 0|2 0|1234 0", 10);
-        faults("A=1 0|0 0", 6);
-        faults("A=1 '", 4);
-        faults("A=1 ,", 4);
-        faults("A=1 :", 4);
-        faults("A=1 0'''", 7);
-        faults("A=1 0,,,", 7);
-        faults("A=1 0',", 6);
-        faults("A=1 0,'", 6);
-        faults("A=1 0'',", 7);
-        faults("A=1 0 '", 6);
-        faults("A=1 0 :4", 6);
-        faults("A=1 0' ,", 7);
-        faults("A=1 0:4'", 7);
-        faults("A=1 0:4:", 7);
-        faults("A=1 r'", 5);
-        faults("A=1 r,", 5);
-        faults("A=1 A'", 5);
-        faults("A=1 A:4", 5);
-        faults("A=1 0:", 6);
-        faults("A=1 0: 4", 6);
-        faults("A=1 0:r", 6);
-        faults("A=1 0:0", 6);
-        faults("A=1 0:04", 6);
-        faults("A=1 0:17", 7);
-        faults("A=1 0:25", 7);
-        faults("A=1 0:100", 8);
-        faults("A=1 0:160", 8);
-        faults("A=1 r:20", 7);
-        faults("A=1 B=2 0", 5);
-        faults("A=1 B \n= 2 0", 7);
-        faults("A=1 0|2 B=2 0", 9);
-        faults("A=1 B", 4);
-        faults("B=1 A", 4);
-        faults("@=1 0", 0);
-        faults("[=1 0", 0);
-        faults("A=1 0 @", 6);
-        faults("A=1 0 [=1 0", 6);
-        faults("A=1 0 C B A B=1 D", 6);
-        faults("A=1 C B=1 B?", 11);
-        faults("A=1 0 A=1 0", 6);
-        faults("A=1 0 B=1 0 A = 1 0", 12);
-        faults("A=1 0 A=?", 6);
-        faults("A=1 Z B=1 0 B=1 0", 12);
-    }
-
-    private static String ruleTexts(int n) {
-        StringBuilder all = new StringBuilder();
-        for (int i = 0; i < n; i++) {
-            all.append((char) ('A' + i)).append("=1 0 ");
-        }
-        return all.toString();
+        DUE.faults("", 0);
+        DUE.faults("  \n", 3);
+        DUE.faults("a", 0);
+        DUE.faults(" 1", 1);
+        DUE.faults("=", 0);
+        DUE.faults("|", 0);
+        DUE.faults("A", 1);
+        DUE.faults("A ", 2);
+        DUE.faults("A B", 2);
+        DUE.faults("AB=1 0", 1);
+        DUE.faults("A=", 2);
+        DUE.faults("A==", 2);
+        DUE.faults("A=|", 2);
+        DUE.faults("A=B", 2);
+        DUE.faults("A=r", 2);
+        DUE.faults("A=1", 3);
+        DUE.faults("A=1 ", 4);
+        DUE.faults("A=1|", 3);
+        DUE.faults("A=1=", 3);
+        DUE.faults("A=1:", 3);
+        DUE.faults("A=1 7", 4);
+        DUE.faults("A=1 9", 4);
+        DUE.faults("A=1 ?", 4);
+        DUE.faults("A=1 R0", 4);
+        DUE.faults("A=1 0=", 5);
+        DUE.faults("A=1 0|", 6);
+        DUE.faults("A=1 0 | ", 8);
+        DUE.faults("A=1 0||", 6);
+        DUE.faults("A=1 0|A", 6);
+        DUE.faults("A=1 0?", 5);
+        DUE.faults("A=1 0 a", 6);
+        DUE.faults("A=0 0", 2);
+        DUE.faults("A=01 0", 2);
+        DUE.faults("A=00", 2);
+        DUE.faults("A=1000 0", 2);
+        DUE.faults("A=1000", 2);
+        DUE.faults("A=99999999999999999999 0", 2);
+        DUE.faults("A=1 0|2 0|1234 0", 10);
+        DUE.faults("A=1 0|0 0", 6);
+        DUE.faults("A=1 '", 4);
+        DUE.faults("A=1 ,", 4);
+        DUE.faults("A=1 :", 4);
+        DUE.faults("A=1 0'''", 7);
+        DUE.faults("A=1 0,,,", 7);
+        DUE.faults("A=1 0',", 6);
+        DUE.faults("A=1 0,'", 6);
+        DUE.faults("A=1 0'',", 7);
+        DUE.faults("A=1 0 '", 6);
+        DUE.faults("A=1 0 :4", 6);
+        DUE.faults("A=1 0' ,", 7);
+        DUE.faults("A=1 0:4'", 7);
+        DUE.faults("A=1 0:4:", 7);
+        DUE.faults("A=1 r'", 5);
+        DUE.faults("A=1 r,", 5);
+        DUE.faults("A=1 A'", 5);
+        DUE.faults("A=1 A:4", 5);
+        DUE.faults("A=1 0:", 6);
+        DUE.faults("A=1 0: 4", 6);
+        DUE.faults("A=1 0:r", 6);
+        DUE.faults("A=1 0:0", 6);
+        DUE.faults("A=1 0:04", 6);
+        DUE.faults("A=1 0:17", 7);
+        DUE.faults("A=1 0:25", 7);
+        DUE.faults("A=1 0:100", 8);
+        DUE.faults("A=1 0:160", 8);
+        DUE.faults("A=1 r:20", 7);
+        DUE.faults("A=1 B=2 0", 5);
+        DUE.faults("A=1 B \n= 2 0", 7);
+        DUE.faults("A=1 0|2 B=2 0", 9);
+        DUE.faults("A=1 B", 4);
+        DUE.faults("B=1 A", 4);
+        DUE.faults("@=1 0", 0);
+        DUE.faults("[=1 0", 0);
+        DUE.faults("A=1 0 @", 6);
+        DUE.faults("A=1 0 [=1 0", 6);
+        DUE.faults("A=1 0 C B A B=1 D", 6);
+        DUE.faults("A=1 C B=1 B?", 11);
+        DUE.faults("A=1 0 A=1 0", 6);
+        DUE.faults("A=1 0 B=1 0 A = 1 0", 12);
+        DUE.faults("A=1 0 A=?", 6);
+        DUE.faults("A=1 Z B=1 0 B=1 0", 12);
     }
 
     private static void readsLimits() {
-        reads(ruleTexts(16), 16, 16, 16);
-        faults(ruleTexts(17), 16 * 6);
-        faults(ruleTexts(16) + "Q", 16 * 6);
-        faults(ruleTexts(16) + "Q ?", 16 * 6 + 2);
-        faults(ruleTexts(16) + "Q=?", 16 * 6);
-        String twelve = "A=1" + times(12, " 0");
-        reads(twelve, 1, 1, 12);
-        reads(twelve + "B=1 0", 2, 2, 13);
-        reads(twelve + " B \n = 1 0", 2, 2, 13);
-        faults(twelve + " 0", twelve.length() + 1);
-        faults(twelve + "r:77", twelve.length());
-        faults(twelve + " A", twelve.length() + 1);
-        faults(twelve + " A A=1 0", twelve.length() + 1);
-        faults(twelve + "'?", twelve.length() + 1);
-        reads(twelve + "|2" + times(12, "r"), 1, 2, 24);
-        faults(twelve + "|2" + times(13, "r"), twelve.length() + 2 + 12);
-        String many = "A=1 0" + times(47, "|1 0");
-        reads(many, 1, 48, 48);
-        faults(many + "|1 0", many.length() + 1);
-        faults(many + "| 1000", many.length() + 2);
-        faults(many + "|", many.length() + 1);
-        faults(many + "|A", many.length() + 1);
-        faults(many + " B = 77 0", many.length() + 5);
-        faults(many + " A = 77 0", many.length() + 1);
-        String full = "A=1" + times(12, "r") + times(19, "|1" + times(12, "r"));
-        reads(full, 1, 20, 240);
-        faults(full + "|1 0", full.length() + 3);
-        faults(full + "|1 A", full.length() + 3);
-        faults(full + "|1B=", full.length() + 2);
-        faults(full + "|1 B \n = 1 0", full.length() + 3);
-        faults(full + "|1 A=1 0", full.length() + 3);
-        faults(full + " B=1 C=1 0", full.length() + 5);
-        faults(full + " B=1 ", full.length() + 5);
-        reads(full.substring(0, full.length() - 1) + " B=1 A", 2, 21, 240);
-        faults(full.substring(0, full.length() - 1) + "|1 B = 1 0", full.length() + 4);
-        faults(full.substring(0, full.length() - 1) + "|1 A B=1 0", full.length() + 8);
-        faults(full + " B=1 ?", full.length() + 5);
-        String longest = times(1195, " ") + "A=1 0";
-        reads(longest, 1, 1, 1);
-        faults(times(1196, "\n") + "A=1 ", 1200);
+        DUE.reads(Due.rules(16), 16, 16, 16);
+        DUE.faults(Due.rules(17), 16 * 6);
+        DUE.faults(Due.rules(16) + "Q", 16 * 6);
+        DUE.faults(Due.rules(16) + "Q ?", 16 * 6 + 2);
+        DUE.faults(Due.rules(16) + "Q=?", 16 * 6);
+        String twelve = "A=1" + Due.times(12, " 0");
+        DUE.reads(twelve, 1, 1, 12);
+        DUE.reads(twelve + "B=1 0", 2, 2, 13);
+        DUE.reads(twelve + " B \n = 1 0", 2, 2, 13);
+        DUE.faults(twelve + " 0", twelve.length() + 1);
+        DUE.faults(twelve + "r:77", twelve.length());
+        DUE.faults(twelve + " A", twelve.length() + 1);
+        DUE.faults(twelve + " A A=1 0", twelve.length() + 1);
+        DUE.faults(twelve + "'?", twelve.length() + 1);
+        DUE.reads(twelve + "|2" + Due.times(12, "r"), 1, 2, 24);
+        DUE.faults(twelve + "|2" + Due.times(13, "r"), twelve.length() + 2 + 12);
+        String many = "A=1 0" + Due.times(47, "|1 0");
+        DUE.reads(many, 1, 48, 48);
+        DUE.faults(many + "|1 0", many.length() + 1);
+        DUE.faults(many + "| 1000", many.length() + 2);
+        DUE.faults(many + "|", many.length() + 1);
+        DUE.faults(many + "|A", many.length() + 1);
+        DUE.faults(many + " B = 77 0", many.length() + 5);
+        DUE.faults(many + " A = 77 0", many.length() + 1);
+        String full = "A=1" + Due.times(12, "r") + Due.times(19, "|1" + Due.times(12, "r"));
+        DUE.reads(full, 1, 20, 240);
+        DUE.faults(full + "|1 0", full.length() + 3);
+        DUE.faults(full + "|1 A", full.length() + 3);
+        DUE.faults(full + "|1B=", full.length() + 2);
+        DUE.faults(full + "|1 B \n = 1 0", full.length() + 3);
+        DUE.faults(full + "|1 A=1 0", full.length() + 3);
+        DUE.faults(full + " B=1 C=1 0", full.length() + 5);
+        DUE.faults(full + " B=1 ", full.length() + 5);
+        DUE.reads(full.substring(0, full.length() - 1) + " B=1 A", 2, 21, 240);
+        DUE.faults(full.substring(0, full.length() - 1) + "|1 B = 1 0", full.length() + 4);
+        DUE.faults(full.substring(0, full.length() - 1) + "|1 A B=1 0", full.length() + 8);
+        DUE.faults(full + " B=1 ?", full.length() + 5);
+        String longest = Due.times(1195, " ") + "A=1 0";
+        DUE.reads(longest, 1, 1, 1);
+        DUE.faults(Due.times(1196, "\n") + "A=1 ", 1200);
     }
 
     private static void rereads(GrammarTunes x, String text, int rules, int alternatives, int signs) {
@@ -358,13 +320,6 @@ public final class PromiseTests {
         is("6 want far", RANGE, x.want(0, Integer.MIN_VALUE));
     }
 
-    private static void tuneIs(String call, GrammarTunes x, int... rows) {
-        is(call + " items", rows.length / 4, x.told(2));
-        for (int i = 0; i < rows.length; i++) {
-            is(call + " item(" + i / 4 + ", " + i % 4 + ")", rows[i], x.item(i / 4, i % 4));
-        }
-    }
-
     private static void makes() {
         GrammarTunes x = Due.reading("S=1 0' r:2 A 6,,:2 A=1 2:8");
         is("7 make(0)", RANGE, x.make(0, 1));
@@ -372,9 +327,9 @@ public final class PromiseTests {
         is("7 make(-1)", RANGE, x.make(-1, 1));
         is("7 make(2)", NONE, x.make(2, 1));
         is("7 make(1)", 4, x.make(1, 1));
-        tuneIs("7 make", x, 72, 4, 0, 0, NONE, 2, 4, NONE, 64, 8, 6, 2, 47, 2, 14, 6);
+        DUE.tune("7 make", x, 72, 4, 0, 0, NONE, 2, 4, NONE, 64, 8, 6, 2, 47, 2, 14, 6);
         is("7 make(0) refused", RANGE, x.make(0, 1));
-        tuneIs("7 refused keeps the TUNE", x, 72, 4, 0, 0, NONE, 2, 4, NONE, 64, 8, 6, 2, 47, 2, 14, 6);
+        DUE.tune("7 refused keeps the TUNE", x, 72, 4, 0, 0, NONE, 2, 4, NONE, 64, 8, 6, 2, 47, 2, 14, 6);
         x.cut(0);
         Due.write(x, "A=1 4:16");
         is("7 other RULES", 1, x.read());
@@ -418,7 +373,7 @@ public final class PromiseTests {
             int number = x.below(seed, 8, 0);
             boolean failed = number >= 2 && number < 7;
             // The second draw is among the two that are left, from the STATE that went on.
-            int again = x.below(seed + GAMMA, 3, 0);
+            int again = x.below(seed + Seeds.STEP, 3, 0);
             int degree = failed ? again < 2 ? 0 : 2 : number < 2 ? 0 : 2;
             is("7 make again", 1, x.make(1, seed));
             is("7 chosen anew, seed " + seed, degree, x.item(0, 3));
@@ -471,7 +426,7 @@ public final class PromiseTests {
         GrammarTunes x = Due.reading("A=1 A 0");
         is("7 more than 200", NONE, x.make(1, 0));
         is("8 tries to 200", 200, x.tries());
-        x = Due.reading("A=1 A" + times(11, "0"));
+        x = Due.reading("A=1 A" + Due.times(11, "0"));
         is("7 eleven more each", NONE, x.make(1, 0));
         is("8 tries to 200 by eleven", 19, x.tries());
         x = Due.reading("A=1 A");
@@ -514,7 +469,7 @@ public final class PromiseTests {
         is("7 one below", VAIN, x.make(16, 1));
         is("8 one below", all - 1, x.tries());
         // 1 + 6 * (1 + 3 * (1 + 12 * 13)) + (1 + 12 * 13) + 10 places, each with one ALTERNATIVE.
-        x = Due.reading("S=1AAAAAABF A=1BBB B=1" + times(12, "C") + " C=1D D=1E E=1F F=1G G=1H H=1I I=1J J=1K K=1L"
+        x = Due.reading("S=1AAAAAABF A=1BBB B=1" + Due.times(12, "C") + " C=1D D=1E E=1F F=1G G=1H H=1I I=1J J=1K K=1L"
                 + " L=1M M=1N N=1O O=1r:1");
         x.want(6, 3000);
         is("7 back over 3000 places", NONE, x.make(16, 1));
@@ -539,29 +494,13 @@ public final class PromiseTests {
     private static void item() {
         GrammarTunes x = Due.reading("S=1 r:7 3':9");
         x.make(1, 0);
-        tuneIs("9", x, NONE, 7, 0, NONE, 77, 9, 7, 3);
+        DUE.tune("9", x, NONE, 7, 0, NONE, 77, 9, 7, 3);
         is("9 item(-1, 0)", NONE, x.item(-1, 0));
         is("9 item(2, 0)", NONE, x.item(2, 0));
         is("9 item(0, -1)", RANGE, x.item(0, -1));
         is("9 item(0, 4)", RANGE, x.item(0, 4));
         is("9 item(9, 4)", RANGE, x.item(9, 4));
         is("9 item far", NONE, x.item(Integer.MAX_VALUE, 1));
-    }
-
-    /** The seed whose first 64 bits are z. */
-    private static long seedOf(long z) {
-        BigInteger round = BigInteger.ONE.shiftLeft(64);
-        long first = unXor(z, 31) * BigInteger.valueOf(0x94D049BB133111EBL).modInverse(round).longValue();
-        long second = unXor(first, 27) * BigInteger.valueOf(0xBF58476D1CE4E5B9L).modInverse(round).longValue();
-        return unXor(second, 30) - GAMMA;
-    }
-
-    private static long unXor(long z, int shift) {
-        long before = z;
-        for (int i = 0; i < 64; i++) {
-            before = z ^ before >>> shift;
-        }
-        return before;
     }
 
     private static void below() {
@@ -574,18 +513,18 @@ public final class PromiseTests {
         is("10 n least", RANGE, x.below(0, Integer.MIN_VALUE, 0));
         is("10 k = -1", RANGE, x.below(0, 1, -1));
         is("10 k = 1001", RANGE, x.below(0, 1, 1001));
-        is("10 k = 1000", x.below(1000 * GAMMA, 64, 0), x.below(0, 64, 1000));
+        is("10 k = 1000", x.below(1000 * Seeds.STEP, 64, 0), x.below(0, 64, 1000));
         is("10 n = 1", 0, x.below(99, 1, 7));
-        long greatest = seedOf(-1L);
-        long after = x.below(greatest + GAMMA, 3, 0);
+        long greatest = Seeds.ofBits(-1L);
+        long after = x.below(greatest + Seeds.STEP, 3, 0);
         is("10 2^63 - 1 refused by 3", after, x.below(greatest, 3, 0));
-        is("10 2^63 - 2 refused by 3", x.below(seedOf(-3L) + GAMMA, 3, 0), x.below(seedOf(-3L), 3, 0));
-        is("10 2^63 - 3 taken by 3", 2, x.below(seedOf(-5L), 3, 0));
+        is("10 2^63 - 2 refused by 3", x.below(Seeds.ofBits(-3L) + Seeds.STEP, 3, 0), x.below(Seeds.ofBits(-3L), 3, 0));
+        is("10 2^63 - 3 taken by 3", 2, x.below(Seeds.ofBits(-5L), 3, 0));
         is("10 2^63 - 1 taken by 4", 3, x.below(greatest, 4, 0));
         is("10 2^63 - 1 taken by 1", 0, x.below(greatest, 1, 0));
         is("10 2^63 - 1 taken by 2^30", (1 << 30) - 1, x.below(greatest, 1 << 30, 0));
-        is("10 refused, then the next", x.below(greatest + 2 * GAMMA, 3, 0), x.below(greatest, 3, 1));
-        is("10 2^63 - 1 refused by the greatest n", x.below(greatest + GAMMA, Integer.MAX_VALUE, 0),
+        is("10 refused, then the next", x.below(greatest + 2 * Seeds.STEP, 3, 0), x.below(greatest, 3, 1));
+        is("10 2^63 - 1 refused by the greatest n", x.below(greatest + Seeds.STEP, Integer.MAX_VALUE, 0),
                 x.below(greatest, Integer.MAX_VALUE, 0));
     }
 
@@ -611,27 +550,12 @@ public final class PromiseTests {
         is("12 step anew", -5, x.step(2));
     }
 
-    private static GrammarTunes corpusOf(int... numbers) {
-        GrammarTunes x = new GrammarTunes();
-        for (int number : numbers) {
-            x.corpus(number);
-        }
-        return x;
-    }
-
-    private static void stepsAre(String call, GrammarTunes x, int... numbers) {
-        is(call + " steps", numbers.length, x.steps());
-        for (int i = 0; i < numbers.length; i++) {
-            is(call + " step(" + i + ")", numbers[i], x.step(i));
-        }
-    }
-
     private static void walk() {
-        GrammarTunes x = corpusOf(1, 2, 3, 4, 5);
+        GrammarTunes x = Due.corpusOf(1, 2, 3, 4, 5);
         is("13 walk to the end", 7, x.walk(1, 2, 6, 0));
-        stepsAre("13 none: from where it began", x, 3, 4, 5, 3, 4, 5, 3);
+        DUE.steps("13 none: from where it began", x, 3, 4, 5, 3, 4, 5, 3);
         is("13 walk of two", 6, x.walk(2, 3, 4, 0));
-        stepsAre("13 none of two", x, 4, 5, 4, 4, 4, 4);
+        DUE.steps("13 none of two", x, 4, 5, 4, 4, 4, 4);
         is("13 k = 0", RANGE, x.walk(0, 0, 1, 0));
         is("13 k = 4", RANGE, x.walk(4, 0, 1, 0));
         is("13 n = -1", RANGE, x.walk(1, 0, -1, 0));
@@ -642,29 +566,29 @@ public final class PromiseTests {
         is("13 place 4 of two", STATE, x.walk(2, 4, 1, 0));
         is("13 place far", STATE, x.walk(3, Integer.MAX_VALUE, 1, 0));
         is("13 place far below", STATE, x.walk(3, Integer.MIN_VALUE, 1, 0));
-        stepsAre("13 refused keeps the WALK", x, 4, 5, 4, 4, 4, 4);
+        DUE.steps("13 refused keeps the WALK", x, 4, 5, 4, 4, 4, 4);
         is("13 longest", 203, x.walk(3, 2, 200, 0));
         is("13 longest, last", 3, x.step(202));
         is("13 n = 0", 3, x.walk(3, 1, 0, 0));
-        stepsAre("13 n = 0", x, 2, 3, 4);
-        x = corpusOf(7, 1, 7, 2, 7, 3, 7, 7);
+        DUE.steps("13 n = 0", x, 2, 3, 4);
+        x = Due.corpusOf(7, 1, 7, 2, 7, 3, 7, 7);
         for (long seed = -20; seed < 20; seed++) {
             int[] behind = {1, 2, 3, 7};
             is("13 one of four", 2, x.walk(1, 0, 1, seed));
             is("13 one of four, seed " + seed, behind[x.below(seed, 4, 0)], x.step(1));
         }
-        x = corpusOf(1, 1, 1, 2, 1, 1, 3);
+        x = Due.corpusOf(1, 1, 1, 2, 1, 1, 3);
         for (long seed = 0; seed < 20; seed++) {
             int[] behind = {1, 2, 3};
             x.walk(2, 0, 1, seed);
             is("13 overlapping, seed " + seed, behind[x.below(seed, 3, 0)], x.step(2));
             x.walk(3, 0, 2, seed);
-            stepsAre("13 no draw without a choice", x, 1, 1, 1, 2, 1);
+            DUE.steps("13 no draw without a choice", x, 1, 1, 1, 2, 1);
         }
     }
 
     private static void stepAndSteps() {
-        GrammarTunes x = corpusOf(9, 8);
+        GrammarTunes x = Due.corpusOf(9, 8);
         is("15 without", 0, x.steps());
         x.walk(1, 0, 3, 1);
         is("15 steps", 4, x.steps());
