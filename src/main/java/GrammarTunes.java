@@ -266,6 +266,7 @@ public final class GrammarTunes {
     private static final class Dice {
         // A draw is refused with a chance below 2^-31, so no run comes near this many.
         private static final int MOST_DRAWS = 1000000;
+        private static final long GREATEST_DRAW = 0x7FFFFFFFFFFFFFFFL;
 
         private long state;
 
@@ -285,9 +286,9 @@ public final class GrammarTunes {
             if (n < 1) {
                 return 0;
             }
-            // 2^63 itself is no long: its rest by n is found from 2^63 - 1.
-            long excess = (Long.MAX_VALUE % n + 1) % n;
-            long greatest = Long.MAX_VALUE - excess;
+            // 2^63 itself is no long: its rest by n is found from the greatest DRAW, which is one less.
+            long excess = (GREATEST_DRAW % n + 1) % n;
+            long greatest = GREATEST_DRAW - excess;
             for (int i = 0; i < MOST_DRAWS; i++) {
                 long drawn = draw();
                 if (drawn <= greatest) {

@@ -225,6 +225,13 @@ public final class MakingEdgeTests {
 
     // ---- failing
 
+    /** It fails at the NOTE or REST ahead of a LETTER, which is no place then: one TRY. */
+    private static void failsAtOnce(String text, int which, int v) {
+        GrammarTunes x = wanting(text, which, v);
+        is("make(2) of " + text, NONE, x.make(2, 0L));
+        is("TRIES of " + text, 1, x.tries());
+    }
+
     private static void aboveTime() {
         makes(1, 1, "S=1 0:16");
         makes(NONE, 1, "S=1 0:16 0:1");
@@ -233,12 +240,9 @@ public final class MakingEdgeTests {
         makes(NONE, 1, "S=1 r:15 r:2");
         makes(16, 16, "S=1 AAAA A=1r:16r:16r:16r:16");
         makes(NONE, 16, "S=1 AAAAB A=1r:16r:16r:16r:16 B=1r:1");
-        // It fails at once, so the LETTER behind it is no place: one TRY.
-        GrammarTunes x = Due.reading("S=1 r:16 r:1 A A=1 0|1 1");
-        is("ahead of a LETTER", NONE, x.make(1, 0L));
-        is("TRIES ahead of a LETTER", 1, x.tries());
+        failsAtOnce("S=1 r:16 r:16 r:1 A A=1 0|1 1", MOST, 500);
         // With just the whole TIME it does not fail yet.
-        x = Due.reading("S=1 r:16 A A=1 r:1|1 r:2");
+        GrammarTunes x = Due.reading("S=1 r:16 A A=1 r:1|1 r:2");
         is("just the whole TIME", NONE, x.make(1, 0L));
         is("TRIES with just the whole TIME", 3, x.tries());
     }
@@ -252,6 +256,7 @@ public final class MakingEdgeTests {
             makes(NONE, 2, "S=1 r:15 " + sound + ":2 r:15", CROSS, 0);
             makes(NONE, 2, "S=1 r:1 " + sound + ":16 r:15", CROSS, 0);
             makes(NONE, 2, "S=1 r:15 " + sound + ":16 r:1", CROSS, 0);
+            failsAtOnce("S=1 r:15 " + sound + ":2 A A=1 r:15|1 r:16 r:1", CROSS, 0);
             makes(3, 2, "S=1 r:15 " + sound + ":2 r:15", CROSS, 1);
             makes(3, 2, "S=1 r:1 " + sound + ":16 r:15");
             makes(NONE, 16, "S=1 AAAC A=1r:16r:16r:16r:16 C=1r:16r:16r:15 " + sound + ":2r:15", CROSS, 0);
@@ -269,6 +274,7 @@ public final class MakingEdgeTests {
         makes(1, 1, "S=1 r:16", LOW, 127);
         makes(NONE, 1, "S=1 6'':16", LOW, 127);
         makes(NONE, 1, "S=1 0:16", LOW, 61, HIGH, 59);
+        failsAtOnce("S=1 0 A A=1 r:12 r:16|1 r:16 r:16", LOW, 61);
     }
 
     private static void aboveHigh() {
@@ -281,6 +287,7 @@ public final class MakingEdgeTests {
         makes(1, 1, "S=1 r:16", HIGH, 0);
         makes(NONE, 1, "S=1 0,,:16", HIGH, 0);
         makes(1, 1, "S=1 3:16", HIGH, 65, LOW, 65);
+        failsAtOnce("S=1 0 A A=1 r:12 r:16|1 r:16 r:16", HIGH, 59);
     }
 
     private static void leaps() {
@@ -301,6 +308,7 @@ public final class MakingEdgeTests {
         makes(NONE, 1, "S=1 0 r:2 r:2 2:8", LEAP, 3);
         makes(2, 1, "S=1 r:8 6'':8", LEAP, 0);
         makes(1, 1, "S=1 0,,:16", LEAP, 0);
+        failsAtOnce("S=1 0:16 1 A A=1 r:12|1 r:16", LEAP, 1);
     }
 
     private static void repeats() {
@@ -319,6 +327,7 @@ public final class MakingEdgeTests {
         makes(4, 1, "S=1 r r 0 1", REPEATS, 1);
         // One degree in two octaves is not one PITCH.
         makes(4, 1, "S=1 0 0' 0 0,", REPEATS, 1);
+        failsAtOnce("S=1 0:16 0 A A=1 r:12|1 r:16", REPEATS, 1);
         // At first 127: the 128th is one too many.
         makes(NONE, 16, "S=1AAAAAAAA A=1BBBB B=1 0:2 0:2 0:2 0:2");
         makes(128, 16, "S=1AAAAAAAC A=1BBBB B=1 0:2 0:2 0:2 0:2 C=1BBBD D=1 0:2 0:2 0:2 r:2");
@@ -456,6 +465,29 @@ public final class MakingEdgeTests {
         x = Due.reading("S=1 A|1 r:16 A=1 A 0");
         is("over 199 places", 1, x.make(1, Seeds.ofDraw(0L)));
         is("TRIES over 199 places", 202, x.tries());
+        overAllPlaces();
+    }
+
+    /** As many places as there can be, each with one ALTERNATIVE, all of them gone back over. */
+    private static void overAllPlaces() {
+        String chain = "C=1D D=1E E=1F F=1G G=1H H=1I I=1J J=1K K=1L L=1M M=1r:1";
+        int all = 1 + 8 + 8 + 64 + 64 + 11 * 256;
+        GrammarTunes x = wanting("S=1AAAAAAAA A=1Y Y=1BBBBBBBB B=1X X=1CCCC " + chain, MOST, 3000);
+        is("over no place", 256, x.make(16, 1L));
+        is("TRIES over no place", all, x.tries());
+        x.want(LAST, 0);
+        is("over " + all + " places", NONE, x.make(16, 1L));
+        is("TRIES over them", all, x.tries());
+        x.want(MOST, all);
+        is("MOST is just as many", NONE, x.make(16, 1L));
+        x.want(MOST, all - 1);
+        is("MOST is one less", VAIN, x.make(16, 1L));
+        is("TRIES with one less", all - 1, x.tries());
+        // 1 + 6 * (1 + 3 * (1 + 12 * 13)) + (1 + 12 * 13) + 10 places.
+        x = wanting("S=1AAAAAABF A=1BBB B=1" + Due.times(12, "C") + " C=1D D=1E E=1F F=1G G=1H H=1I I=1J J=1K K=1L"
+                + " L=1M M=1N N=1O O=1r:1", MOST, 3000);
+        is("over 3000 places", NONE, x.make(16, 1L));
+        is("TRIES over 3000 places", 3000, x.tries());
     }
 
     private static void noSuchPlace() {

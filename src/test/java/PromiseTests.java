@@ -17,7 +17,6 @@ public final class PromiseTests {
         makes();
         makeKeepsWhatIsWanted();
         makeFailsAndEnds();
-        makeGoesBackOverMany();
         tries();
         item();
         below();
@@ -452,30 +451,6 @@ public final class PromiseTests {
         is("8 goes back over places", 7, x.tries());
     }
 
-    /** Nearly as many places as there can be, all of them gone back over. */
-    private static void makeGoesBackOverMany() {
-        String chain = "C=1D D=1E E=1F F=1G G=1H H=1I I=1J J=1K K=1L L=1M M=1r:1";
-        GrammarTunes x = Due.reading("S=1AAAAAAAA A=1Y Y=1BBBBBBBB B=1X X=1CCCC " + chain);
-        int all = 1 + 8 + 8 + 64 + 64 + 11 * 256;
-        x.want(6, 3000);
-        is("7 many places", 256, x.make(16, 1));
-        is("8 many places", all, x.tries());
-        x.want(5, 0);
-        is("7 back over many places", NONE, x.make(16, 1));
-        is("8 back over many places", all, x.tries());
-        x.want(6, all);
-        is("7 just MOST", NONE, x.make(16, 1));
-        x.want(6, all - 1);
-        is("7 one below", VAIN, x.make(16, 1));
-        is("8 one below", all - 1, x.tries());
-        // 1 + 6 * (1 + 3 * (1 + 12 * 13)) + (1 + 12 * 13) + 10 places, each with one ALTERNATIVE.
-        x = Due.reading("S=1AAAAAABF A=1BBB B=1" + Due.times(12, "C") + " C=1D D=1E E=1F F=1G G=1H H=1I I=1J J=1K K=1L"
-                + " L=1M M=1N N=1O O=1r:1");
-        x.want(6, 3000);
-        is("7 back over 3000 places", NONE, x.make(16, 1));
-        is("8 back over 3000 places", 3000, x.tries());
-    }
-
     private static void tries() {
         GrammarTunes x = new GrammarTunes();
         x.make(1, 1);
@@ -654,7 +629,7 @@ public final class PromiseTests {
         for (int[] pair : wrong) {
             is("18 place(" + pair[0] + ", " + pair[1] + ")", RANGE, x.place(pair[0], pair[1]));
         }
-        for (int by = 0; by < 12; by++) {
+        for (int by : new int[] {0, 1, 6, 11}) {
             for (int i = 0; i < 12; i++) {
                 int mirror = 11 - (row[i] - 11);
                 int mirrorBack = 11 - (row[11 - i] - 11);

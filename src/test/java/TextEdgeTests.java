@@ -176,8 +176,10 @@ public final class TextEdgeTests {
         for (String wrong : new String[] {"0", "00", "01", "001", "0999", "1000", "1001", "9999", "4294967297"}) {
             faults("A=" + wrong + " 0", 2);
         }
-        faults("A=-1 0", 2);
-        faults("A=+1 0", 2);
+        for (char c : new char[] {'-', '+', '/', ':'}) {
+            faults("A=" + c + "1 0", 2);
+            faults("A=1" + c + "1 0", 3);
+        }
     }
 
     private static void oneToTwelve() {
@@ -232,7 +234,10 @@ public final class TextEdgeTests {
         faults("A=1 0:20", 7);
         faults("A=1 0:99", 7);
         faults("A=1 0:160", 8);
-        faults("A=1 0:-1", 6);
+        for (char c : new char[] {'-', '/', ':'}) {
+            faults("A=1 0:" + c + "1", 6);
+            faults("A=1 0:1" + c, 7);
+        }
         faults("A=1 0:", 6);
     }
 
@@ -460,6 +465,8 @@ public final class TextEdgeTests {
         faults("A=1 C B", 4);
         faults("A=1 0 B C|2 D B=1 E", 8);
         faults("A=1 0 B=1 C|7 A D", 10);
+        faults("B=1 A", 4);
+        faults("Y=1 Z A", 4);
         faults("Z=1 0 Y", 6);
         reads("A=1 B B=1 A", 2, 2, 2);
         // Only if there is no other fault.
@@ -553,6 +560,18 @@ public final class TextEdgeTests {
         is("cut(0) of 0", 0, x.cut(0));
         is("cut(1) of 0", RANGE, x.cut(1));
         is("all went", -10, x.read());
+        // What went is not read, wherever the first n end.
+        String whole = "A=1 0 A=12 0'':16";
+        int[] due = {-10, -11, -12, -13, -14, 1, 1, 1, -16, -16, -16, -16};
+        for (int n = 0; n < due.length; n++) {
+            x = Due.with(whole);
+            x.cut(n);
+            is("the first " + n + " of " + whole, due[n], x.read());
+        }
+        x = Due.with("A=1 0:16");
+        x.cut(7);
+        is("a length of which a digit went", 1, x.read());
+        is("it is not 16", NONE, x.make(1, 0L));
     }
 
     private static void stays() {
@@ -566,6 +585,15 @@ public final class TextEdgeTests {
         is("read again", 1, x.read());
     }
 
+    private static void readsNext(GrammarTunes x, String text, int rules, int alternatives, int signs) {
+        x.cut(0);
+        Due.write(x, text);
+        is("read() of " + text, rules, x.read());
+        is("RULES of " + text, rules, x.told(1));
+        is("ALTERNATIVES of " + text, alternatives, x.told(4));
+        is("SIGNS of " + text, signs, x.told(5));
+    }
+
     private static void theseThen() {
         GrammarTunes x = Due.with("A=1 0|2 1 B=3 A");
         is("not yet", 0, x.told(1));
@@ -573,12 +601,23 @@ public final class TextEdgeTests {
         x.cut(0);
         Due.write(x, "C=7 0");
         is("until it is read", 2, x.told(1));
-        is("other RULES", 1, x.read());
+        // These alone, whatever was read or refused before them.
+        readsNext(x, "C=7 0", 1, 1, 1);
         is("A is gone", NONE, x.rule(0, 0));
         is("B is gone", NONE, x.rule(1, 1));
         is("C", 7, x.rule(2, 1));
-        is("ALTERNATIVES", 1, x.told(4));
-        is("SIGNS", 1, x.told(5));
+        readsNext(x, "C=7 0|8 A A=9 C", 2, 3, 3);
+        is("WEIGHTS of C", 15, x.rule(2, 1));
+        is("WEIGHTS of A", 9, x.rule(0, 1));
+        x.cut(0);
+        Due.write(x, "C=5 0|6 D A=9 C|1 C?");
+        is("a FAULT", -29, x.read());
+        readsNext(x, "A=4 C C=2 A|3 0:16", 2, 3, 3);
+        is("WEIGHTS of A anew", 4, x.rule(0, 1));
+        is("WEIGHTS of C anew", 5, x.rule(2, 1));
+        is("B is not there", NONE, x.rule(1, 0));
+        is("made by these", 1, x.make(1, Seeds.ofDraw(2L, 1)));
+        is("in two TRIES", 2, x.tries());
     }
 
     private static void asBefore() {
