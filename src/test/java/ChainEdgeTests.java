@@ -37,10 +37,6 @@ public final class ChainEdgeTests {
         DUE.is(call, due, got);
     }
 
-    private static int drawnBelow(int n, long seed, int k) {
-        return Seeds.draw(seed, k).mod(java.math.BigInteger.valueOf(n)).intValue();
-    }
-
     /** A full CORPUS: 0 .. 299, each once. */
     private static GrammarTunes counting() {
         GrammarTunes x = new GrammarTunes();
@@ -83,11 +79,11 @@ public final class ChainEdgeTests {
         GrammarTunes x = Due.corpusOf(0, 10, 0, 11, 0, 12, 0, 13, 0, 14);
         for (long seed : new long[] {Long.MIN_VALUE, -1L, 0L, 1L, Long.MAX_VALUE, -Seeds.STEP}) {
             is("walk", 2, x.walk(1, 0, 1, seed));
-            is("from " + seed, behind[drawnBelow(5, seed, 0)], x.step(1));
+            is("from " + seed, behind[Seeds.rest(5, seed, 0)], x.step(1));
         }
         long refused = Seeds.ofDraw(Long.MAX_VALUE);
         x.walk(1, 0, 1, refused);
-        is("a DRAW that is not below the greatest multiple", behind[drawnBelow(5, refused, 1)], x.step(1));
+        is("a DRAW that is not below the greatest multiple", behind[Seeds.rest(5, refused, 1)], x.step(1));
     }
 
     private static void begins() {
@@ -129,7 +125,7 @@ public final class ChainEdgeTests {
         x = Due.corpusOf(1, 1, 1, 2, 1, 1, 3);
         for (long seed = 0; seed < 20; seed++) {
             x.walk(2, 0, 1, seed);
-            is("over one another from " + seed, behind[drawnBelow(3, seed, 0)], x.step(2));
+            is("over one another from " + seed, behind[Seeds.rest(3, seed, 0)], x.step(2));
         }
         // Numbers that a narrower kind would hold for the same.
         x = Due.corpusOf(1, 8, 65537, 9, Integer.MIN_VALUE, 7, 257, 6, -1, 5, Integer.MAX_VALUE, 4);
@@ -152,7 +148,7 @@ public final class ChainEdgeTests {
         x = Due.corpusOf(0, 1, 2, 1, 3);
         for (long seed = 0; seed < 20; seed++) {
             is("walk of one, then of two", 3, x.walk(1, 0, 2, seed));
-            DUE.steps("from " + seed, x, 0, 1, drawnBelow(2, seed, 1) == 0 ? 2 : 3);
+            DUE.steps("from " + seed, x, 0, 1, Seeds.rest(2, seed, 1) == 0 ? 2 : 3);
         }
         // The most places there can be.
         x = new GrammarTunes();
@@ -191,7 +187,7 @@ public final class ChainEdgeTests {
             int latest = 0;
             for (int i = 1; i < 9; i++) {
                 int before = latest;
-                latest = before == 0 ? behind[drawnBelow(3, seed, draws)] : 0;
+                latest = before == 0 ? behind[Seeds.rest(3, seed, draws)] : 0;
                 draws += before == 7 ? 0 : 1;
                 is("step(" + i + ") from " + seed, latest, x.step(i));
             }

@@ -27,13 +27,9 @@ public final class DrawEdgeTests {
         DUE.is(call, due, got);
     }
 
-    private static int restOf(BigInteger drawn, int n) {
-        return drawn.mod(BigInteger.valueOf(n)).intValue();
-    }
-
-    private static long greatestMultipleLess(int n, int less) {
-        BigInteger size = BigInteger.valueOf(n);
-        return TWO_63.subtract(TWO_63.mod(size)).subtract(BigInteger.valueOf(less)).longValueExact();
+    /** The greatest multiple of a number that is no power of two: 2^63 less its rest. */
+    private static long greatestMultiple(int n) {
+        return TWO_63.subtract(TWO_63.mod(BigInteger.valueOf(n))).longValueExact();
     }
 
     private static void stateGoesRound() {
@@ -42,9 +38,9 @@ public final class DrawEdgeTests {
         GrammarTunes x = new GrammarTunes();
         for (long seed : seeds) {
             for (int k = 0; k < 4; k++) {
-                BigInteger drawn = Seeds.draw(seed, k);
-                is("below(" + seed + ", 2^30, " + k + ")", restOf(drawn, 1 << 30), x.below(seed, 1 << 30, k));
-                is("below(" + seed + ", 999983, " + k + ")", restOf(drawn, 999983), x.below(seed, 999983, k));
+                for (int n : new int[] {1 << 30, 999983}) {
+                    is("below(" + seed + ", " + n + ", " + k + ")", Seeds.rest(n, seed, k), x.below(seed, n, k));
+                }
             }
         }
         is("STATE goes round to 0", 0, x.below(-Seeds.STEP, Integer.MAX_VALUE, 0));
@@ -60,7 +56,7 @@ public final class DrawEdgeTests {
         is("of 1: the lowest bit is left out", 0, x.below(Seeds.ofBits(1L), 1000, 0));
         is("of 2", 1, x.below(Seeds.ofBits(2L), 1000, 0));
         is("of 3", 1, x.below(Seeds.ofBits(3L), 1000, 0));
-        is("of 2^63: the highest bit counts", restOf(BigInteger.ONE.shiftLeft(62), 1000),
+        is("of 2^63: the highest bit counts", (1L << 62) % 1000,
                 x.below(Seeds.ofBits(Long.MIN_VALUE), 1000, 0));
         is("of 2^64 - 1: not below 0", 1023, x.below(Seeds.ofBits(-1L), 1024, 0));
     }
@@ -68,12 +64,12 @@ public final class DrawEdgeTests {
     private static void belowTheGreatestMultiple() {
         for (int n : NO_POWERS) {
             GrammarTunes x = new GrammarTunes();
-            long last = Seeds.ofDraw(greatestMultipleLess(n, 1));
+            long last = Seeds.ofDraw(greatestMultiple(n) - 1);
             is("one below, n = " + n, n - 1, x.below(last, n, 0));
-            long first = Seeds.ofDraw(TWO_63.subtract(TWO_63.mod(BigInteger.valueOf(n))).longValueExact());
-            is("just the multiple, n = " + n, restOf(Seeds.draw(first, 1), n), x.below(first, n, 0));
+            long first = Seeds.ofDraw(greatestMultiple(n));
+            is("just the multiple, n = " + n, Seeds.rest(n, first, 1), x.below(first, n, 0));
             long greatest = Seeds.ofDraw(Long.MAX_VALUE);
-            is("2^63 - 1, n = " + n, restOf(Seeds.draw(greatest, 1), n), x.below(greatest, n, 0));
+            is("2^63 - 1, n = " + n, Seeds.rest(n, greatest, 1), x.below(greatest, n, 0));
         }
     }
 
@@ -84,7 +80,7 @@ public final class DrawEdgeTests {
         for (int bits = 0; bits <= 30; bits++) {
             int n = 1 << bits;
             is("2^63 - 1, n = " + n, n - 1, x.below(greatest, n, 0));
-            is("2^63 - 1 then the next, n = " + n, restOf(Seeds.draw(greatest, 1), n), x.below(greatest, n, 1));
+            is("2^63 - 1 then the next, n = " + n, Seeds.rest(n, greatest, 1), x.below(greatest, n, 1));
         }
     }
 
@@ -101,15 +97,15 @@ public final class DrawEdgeTests {
 
     private static void kThOne() {
         GrammarTunes x = new GrammarTunes();
-        is("0", restOf(Seeds.draw(5L, 0), 97), x.below(5L, 97, 0));
-        is("1", restOf(Seeds.draw(5L, 1), 97), x.below(5L, 97, 1));
-        is("1000", restOf(Seeds.draw(5L, 1000), 97), x.below(5L, 97, 1000));
+        is("0", Seeds.rest(97, 5L, 0), x.below(5L, 97, 0));
+        is("1", Seeds.rest(97, 5L, 1), x.below(5L, 97, 1));
+        is("1000", Seeds.rest(97, 5L, 1000), x.below(5L, 97, 1000));
         long refused = Seeds.ofDraw(Long.MAX_VALUE);
-        is("a refused DRAW is none of them", restOf(Seeds.draw(refused, 2), 3), x.below(refused, 3, 1));
+        is("a refused DRAW is none of them", Seeds.rest(3, refused, 2), x.below(refused, 3, 1));
         long later = Seeds.ofDraw(Long.MAX_VALUE, 3);
-        is("ahead of the refused DRAW", restOf(Seeds.draw(later, 2), 3), x.below(later, 3, 2));
-        is("at the refused DRAW", restOf(Seeds.draw(later, 4), 3), x.below(later, 3, 3));
-        is("behind the refused DRAW", restOf(Seeds.draw(later, 1001), 3), x.below(later, 3, 1000));
+        is("ahead of the refused DRAW", Seeds.rest(3, later, 2), x.below(later, 3, 2));
+        is("at the refused DRAW", Seeds.rest(3, later, 4), x.below(later, 3, 3));
+        is("behind the refused DRAW", Seeds.rest(3, later, 1001), x.below(later, 3, 1000));
     }
 
     private static void nBelowOne() {
@@ -118,14 +114,14 @@ public final class DrawEdgeTests {
         is("n = 0", RANGE, x.below(0L, 0, 0));
         is("n = -1", RANGE, x.below(0L, -1, 0));
         is("n least", RANGE, x.below(0L, Integer.MIN_VALUE, 0));
-        is("n greatest", restOf(Seeds.draw(0L, 0), Integer.MAX_VALUE), x.below(0L, Integer.MAX_VALUE, 0));
+        is("n greatest", Seeds.rest(Integer.MAX_VALUE, 0L, 0), x.below(0L, Integer.MAX_VALUE, 0));
     }
 
     private static void kOutside() {
         GrammarTunes x = new GrammarTunes();
         is("k = -1", RANGE, x.below(0L, 9, -1));
-        is("k = 0", restOf(Seeds.draw(0L, 0), 9), x.below(0L, 9, 0));
-        is("k = 1000", restOf(Seeds.draw(0L, 1000), 9), x.below(0L, 9, 1000));
+        is("k = 0", Seeds.rest(9, 0L, 0), x.below(0L, 9, 0));
+        is("k = 1000", Seeds.rest(9, 0L, 1000), x.below(0L, 9, 1000));
         is("k = 1001", RANGE, x.below(0L, 9, 1001));
         is("k least", RANGE, x.below(0L, 9, Integer.MIN_VALUE));
         is("k greatest", RANGE, x.below(0L, 9, Integer.MAX_VALUE));

@@ -20,7 +20,8 @@ public final class FaceTests {
         "step(int)", "steps()", "stroke(int, int, int, int)", "turned(long, long, int)", "place(int, int)",
         "form(int, int, int)", "doubled()", "told(int)"};
     private static final String[] BANNED = {"throw", "try", "catch", "synchronized", "assert", "->", "::",
-        "\\w*Exact", "\\w*Exception", "protected", "package", "hashCode", "toString", "record", "volatile", "native"};
+        "\\w*Exact", "\\w*Exception", "\\w*_VALUE", "protected", "package", "hashCode", "toString",
+        "record", "volatile", "native"};
 
     public static void main(String[] args) throws IOException {
         constants();

@@ -94,10 +94,6 @@ public final class MakingEdgeTests {
         is(call + ", items", Math.max(due, 0), x.told(2));
     }
 
-    private static int drawnBelow(int n, long seed, int k) {
-        return Seeds.draw(seed, k).mod(java.math.BigInteger.valueOf(n)).intValue();
-    }
-
     // ---- unfolding
 
     private static void bars() {
@@ -119,11 +115,11 @@ public final class MakingEdgeTests {
         GrammarTunes x = Due.reading("S=1 0:16|1 1:16|1 2:16|1 3:16|1 4:16|1 5:16|1 6:16");
         for (long seed : new long[] {Long.MIN_VALUE, -1L, 0L, 1L, Long.MAX_VALUE, -Seeds.STEP}) {
             is("make(1, " + seed + ")", 1, x.make(1, seed));
-            is("degree from " + seed, drawnBelow(7, seed, 0), x.item(0, 3));
+            is("degree from " + seed, Seeds.rest(7, seed, 0), x.item(0, 3));
         }
         long refused = Seeds.ofDraw(Long.MAX_VALUE);
         x.make(1, refused);
-        is("a DRAW that is not below the greatest multiple", drawnBelow(7, refused, 1), x.item(0, 3));
+        is("a DRAW that is not below the greatest multiple", Seeds.rest(7, refused, 1), x.item(0, 3));
     }
 
     private static void atFirst() {
@@ -186,7 +182,7 @@ public final class MakingEdgeTests {
             for (long drawn = 0; drawn < 48; drawn++) {
                 long seed = Seeds.ofDraw(drawn);
                 int first = drawn % 8 < 2 ? 0 : drawn % 8 < 7 ? 1 : 2;
-                int second = drawnBelow(8 - weights[failing], seed, 1) < weights[one] ? one : other;
+                int second = Seeds.rest(8 - weights[failing], seed, 1) < weights[one] ? one : other;
                 is("make of " + text, 1, x.make(1, seed));
                 is("degree of " + text + ", DRAW " + drawn, first == failing ? second : first, x.item(0, 3));
                 is("TRIES of " + text + ", DRAW " + drawn, first == failing ? 2 : 1, x.tries());
@@ -410,15 +406,15 @@ public final class MakingEdgeTests {
             long seed = Seeds.ofDraw(drawn, 2);
             is("make, DRAW " + drawn, 2, x.make(1, seed));
             is("TRIES, DRAW " + drawn, 4, x.tries());
-            is("degree at the place ahead, DRAW " + drawn, drawnBelow(2, seed, 1), x.item(0, 3));
+            is("degree at the place ahead, DRAW " + drawn, Seeds.rest(2, seed, 1), x.item(0, 3));
         }
     }
 
     private static void stateGoesOn() {
         GrammarTunes x = Due.reading("S=1 0|1 1|1 2:16");
         for (long seed = 0; seed < 60; seed++) {
-            boolean byFirst = drawnBelow(3, seed, 0) == 2;
-            boolean bySecond = drawnBelow(2, seed, 1) == 1;
+            boolean byFirst = Seeds.rest(3, seed, 0) == 2;
+            boolean bySecond = Seeds.rest(2, seed, 1) == 1;
             is("make", 1, x.make(1, seed));
             is("TRIES from " + seed, byFirst ? 1 : bySecond ? 2 : 3, x.tries());
         }
@@ -428,7 +424,7 @@ public final class MakingEdgeTests {
             long seed = Seeds.ofDraw(drawn, 1);
             is("make", 2, x.make(1, seed));
             is("TRIES, DRAW " + drawn, 6, x.tries());
-            is("degree, DRAW " + drawn, drawnBelow(2, seed, 5), x.item(1, 3));
+            is("degree, DRAW " + drawn, Seeds.rest(2, seed, 5), x.item(1, 3));
         }
     }
 

@@ -34,6 +34,11 @@ final class Seeds {
         return z.xor(z.shiftRight(31)).shiftRight(1);
     }
 
+    /** The rest by n of DRAW number k (from 0 on) from a seed. */
+    static int rest(int n, long seed, int k) {
+        return draw(seed, k).mod(BigInteger.valueOf(n)).intValue();
+    }
+
     private static BigInteger unsigned(long bits) {
         return new BigInteger(Long.toUnsignedString(bits));
     }
